@@ -422,7 +422,7 @@ public final class SummitTime {
 
     /** Seconds from .. to as bits; what lies behind the last second is left off. */
     private static long span(int from, int to) {
-        int end = Math.min(to, LAST_SECOND);
+        int end = to < LAST_SECOND ? to : LAST_SECOND;
         if (from < 0 || from > end) {
             return 0;
         }
@@ -561,7 +561,7 @@ public final class SummitTime {
         }
 
         int kindOf(int p) {
-            return knows(p) ? kinds[p] : NONE;
+            return p >= 0 && p < people && p < PEOPLE ? kinds[p] : NONE;
         }
 
         int paceOf(int p) {
@@ -581,12 +581,18 @@ public final class SummitTime {
         }
 
         int walkOf(int p) {
-            return kindOf(p) == GUIDE ? Math.max(1, paceOf(p) - 1) : paceOf(p);
+            if (!knows(p)) {
+                return 0;
+            }
+            return kinds[p] == GUIDE && paces[p] > 1 ? paces[p] - 1 : paces[p];
         }
 
         /** What a second of his costs another one. */
         int tollOf(int p) {
-            return kindOf(p) == BANK ? 2 * rentOf(p) : rentOf(p);
+            if (!knows(p)) {
+                return 0;
+            }
+            return kinds[p] == BANK ? 2 * rents[p] : rents[p];
         }
     }
 

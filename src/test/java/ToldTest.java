@@ -81,6 +81,13 @@ final class ToldTest {
         fault("", "to", 0);
         fault("", "Top", 0);
         fault("", "tOp", 0);
+        fault("", "xop", 0);
+        fault("", "xog 1 2", 0);
+        fault("", "topz", 0);
+        fault("", "top" + (char) 96, 3);
+        fault("", "top{", 3);
+        fault("", "fog 1/ 2", 5);
+        fault("", "fog 1 2:", 7);
         fault("", "top clear", 4);
         fault("", "topclear", 0);
         fault("", "top;clear", SummitTime.NONE);
