@@ -561,27 +561,27 @@ public final class SummitTime {
         }
 
         int kindOf(int p) {
-            return p >= 0 && p < people && p < PEOPLE ? kinds[p] : NONE;
+            return p >= 0 && p < PEOPLE ? kinds[p] : NONE;
         }
 
         int paceOf(int p) {
-            return knows(p) ? paces[p] : 0;
+            return p >= 0 && p < PEOPLE ? paces[p] : 0;
         }
 
         int stayOf(int p) {
-            return knows(p) ? stayings[p] : 0;
+            return p >= 0 && p < PEOPLE ? stayings[p] : 0;
         }
 
         int rentOf(int p) {
-            return knows(p) ? rents[p] : 0;
+            return p >= 0 && p < PEOPLE ? rents[p] : 0;
         }
 
         long deedOf(int p) {
-            return knows(p) ? deeds[p] : 0;
+            return p >= 0 && p < PEOPLE ? deeds[p] : 0;
         }
 
         int walkOf(int p) {
-            if (!knows(p)) {
+            if (p < 0 || p >= PEOPLE) {
                 return 0;
             }
             return kinds[p] == GUIDE && paces[p] > 1 ? paces[p] - 1 : paces[p];
@@ -589,7 +589,7 @@ public final class SummitTime {
 
         /** What a second of his costs another one. */
         int tollOf(int p) {
-            if (!knows(p)) {
+            if (p < 0 || p >= PEOPLE) {
                 return 0;
             }
             return kinds[p] == BANK ? 2 * rents[p] : rents[p];
